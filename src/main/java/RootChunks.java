@@ -620,20 +620,17 @@ public final class RootChunks {
 
         /**
          * The span stays where it is until all is cut: ahead of it the row that is left has the same places,
-         * behind it they are greater by its size. A place that is cut once is cut again without work, which
-         * tells the chunk there after later cuts.
+         * behind it they are greater by its size. To cut where it is cut already costs nothing and tells the
+         * chunk there; that is done from left to right, as a new cut shifts the chunks behind it.
          */
         private void moveSpan(int from, int to, int place) {
             int behind = to + 1;
             cutAt(from);
             cutAt(behind);
             if (place <= from) {
-                cutAt(place);
                 exchangeChunks(cutAt(place), cutAt(from), cutAt(behind));
             } else {
-                int target = place + behind - from;
-                cutAt(target);
-                exchangeChunks(cutAt(from), cutAt(behind), cutAt(target));
+                exchangeChunks(cutAt(from), cutAt(behind), cutAt(place + behind - from));
             }
         }
 

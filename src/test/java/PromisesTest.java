@@ -11,11 +11,13 @@ public final class PromisesTest {
         promise2Errors();
         promise3TakeOut();
         promise3LongChunksAreParted();
+        promise3LongChunkBehindOthers();
         promise4Set();
         promise5Turn();
         promise6Add();
         promise6Limits();
         promise7Move();
+        promise7OrderOfCuts();
         promise8Rotate();
         promise9At();
         promise10Chunk();
@@ -184,6 +186,24 @@ public final class PromisesTest {
         numbersDue("a long chunk that was turned", turned, 8, 7, 6);
     }
 
+    private static void promise3LongChunkBehindOthers() {
+        RootChunks x = rowOf(36);
+        chunksDue("thirty-six", x, 45344556, x.count(WORK));
+        x.turn(25, 29);
+        for (int i = 0; i < 6; i++) {
+            x.takeOut(30);
+        }
+        for (int i = 0; i < 21; i++) {
+            x.takeOut(0);
+        }
+        x.turn(0, 1);
+        chunksDue("two short ones and a long one in which a turn waits", x, 225, x.count(WORK));
+        int work = x.count(WORK);
+        due("takeOut so that the root falls to 2", x.takeOut(0), 100022);
+        chunksDue("the long one is parted behind others", x, 1223, work + 11);
+        numbersDue("the long one is parted behind others", x, 21, 23, 24, 29, 28, 27, 26, 25);
+    }
+
     private static void promise4Set() {
         RootChunks x = rowOf(4);
         x.turn(0, 1);
@@ -321,6 +341,18 @@ public final class PromisesTest {
         chunksDue("move whole chunks costs nothing", turned, 22, 6);
     }
 
+    /** Which of two cuts in one chunk comes first is told by the work. */
+    private static void promise7OrderOfCuts() {
+        RootChunks ahead = rowOf(9);
+        ahead.move(7, 7, 0);
+        numbersDue("move ahead out of a chunk", ahead, 7, 0, 1, 2, 3, 4, 5, 6, 8);
+        chunksDue("move: cut ahead of the span, then behind it, then at the place", ahead, 3231, 20);
+        RootChunks behind = rowOf(9);
+        behind.move(5, 6, 6);
+        numbersDue("move within a chunk", behind, 0, 1, 2, 3, 4, 7, 5, 6, 8);
+        chunksDue("move: cut behind the span, then at the place behind it", behind, 2331, 21);
+    }
+
     private static void promise8Rotate() {
         RootChunks x = rowOf(5);
         due("rotate by 1", x.rotate(0, 4, 1), 3);
@@ -403,6 +435,19 @@ public final class PromisesTest {
             due("count: root of " + length, x.count(ROOT), (int) Math.sqrt(length));
             due("count: undos", x.count(UNDOS), Math.min(length, 6));
         }
+        due("count: the longest is in the midst", x.count(LONGEST), 7);
+        RootChunks first = rowOf(4);
+        first.turn(0, 3);
+        first.takeOut(3);
+        first.takeOut(2);
+        due("count: the longest is as long as twice the root", first.count(LONGEST), 2);
+        due("count: the root of 2", first.count(ROOT), 1);
+        RootChunks one = new RootChunks();
+        for (int i = 0; i < 9; i++) {
+            one.putIn(0, i);
+        }
+        chunksDue("nine put in at the front", one, 3222, 15);
+        due("count: the longest is the first", one.count(LONGEST), 3);
         RootChunks y = rowOf(9);
         y.turn(0, 3);
         y.add(4, 8, 2);
@@ -437,6 +482,9 @@ public final class PromisesTest {
         due("kth where something waits, the next", x.kth(0, 3, 2), 100013);
         due("kth of a part that waits", x.kth(0, 0, 0), 100013);
         due("kth: nothing is carried out", x.count(WORK), 6);
+        RootChunks near = row(3, 4, 5);
+        due("kth of neighbours", near.kth(0, 2, 1), 100004);
+        due("kth of neighbours, the greatest", near.kth(0, 2, 2), 100005);
     }
 
     private static void promise13Below() {
@@ -467,6 +515,12 @@ public final class PromisesTest {
         x.add(0, 1, 100);
         due("sum where something waits", x.sum(1, 2), 10000110);
         due("sum: nothing is carried out", x.count(WORK), 6);
+        RootChunks y = rowOf(9);
+        y.turn(6, 8);
+        due("sum where a turn waits, first", y.sum(6, 6), 10000008);
+        due("sum where a turn waits, second", y.sum(7, 7), 10000007);
+        due("sum where a turn waits, last", y.sum(8, 8), 10000006);
+        due("sum ahead of where a turn waits", y.sum(0, 5), 10000015);
     }
 
     private static void promise15Unlike() {
