@@ -14,6 +14,16 @@ final class Check {
         }
     }
 
+    void same(String what, String got, String want) {
+        if (got.equals(want)) {
+            return;
+        }
+        wrong++;
+        if (wrong <= MOST_PRINTED) {
+            System.out.println(what + "\n  is  " + got + "\n  due " + want);
+        }
+    }
+
     void holds(String what, boolean so) {
         due(what + " (1: it holds)", so ? 1 : 0, 1);
     }
@@ -27,14 +37,5 @@ final class Check {
             System.out.println(wrong + " wrong");
             System.exit(1);
         }
-    }
-
-    /** The number by which up to eight characters are given to put(). */
-    static long packed(String characters) {
-        long number = 0;
-        for (char c : characters.toCharArray()) {
-            number = number << 8 | c;
-        }
-        return number;
     }
 }

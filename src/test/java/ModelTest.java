@@ -10,6 +10,7 @@ public final class ModelTest {
     private static final Check CHECK = new Check();
 
     private Random random;
+    private Pair pair;
     private RootChunks program;
     private PlainModel model;
     private String called;
@@ -24,13 +25,14 @@ public final class ModelTest {
 
     private void run(int seed) {
         random = new Random(seed);
-        program = new RootChunks();
-        model = new PlainModel();
+        pair = new Pair(CHECK);
+        program = pair.program;
+        model = pair.model;
         favoured = seed % 8;
         for (int call = 0; call < CALLS && CHECK.wrong() == 0; call++) {
             int before = CHECK.wrong();
             callOne(call);
-            compareAll();
+            pair.compareAll("behind " + called + ": ");
             if (CHECK.wrong() > before) {
                 System.out.println("seed " + seed + ", call " + call + ": behind " + called);
             }
@@ -40,22 +42,6 @@ public final class ModelTest {
     private void due(String call, int got, int want) {
         called = call;
         CHECK.due(call, got, want);
-    }
-
-    private void compareAll() {
-        String behind = "behind " + called + ": ";
-        for (int what = 0; what <= 8; what++) {
-            CHECK.due(behind + "count " + what, program.count(what), model.count(what));
-        }
-        for (int chunk = 0; chunk < model.count(1); chunk++) {
-            for (int what = 0; what <= 4; what++) {
-                CHECK.due(behind + "chunk " + chunk + " " + what, program.chunk(chunk, what), model.chunk(chunk, what));
-            }
-        }
-        for (int place = 0; place < model.count(0); place++) {
-            CHECK.due(behind + "at " + place, program.at(place), model.at(place));
-        }
-        CHECK.due(behind + "fault", program.fault(), model.fault());
     }
 
     private void callOne(int call) {
@@ -167,7 +153,7 @@ public final class ModelTest {
     private void write(String text) {
         for (int i = 0; i < text.length(); i += 8) {
             String part = text.substring(i, Math.min(text.length(), i + 8));
-            due("put " + part, program.put(Check.packed(part)), model.put(Check.packed(part)));
+            due("put " + part, program.put(Rows.packed(part)), model.put(Rows.packed(part)));
         }
     }
 

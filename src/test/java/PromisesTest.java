@@ -45,30 +45,6 @@ public final class PromisesTest {
         CHECK.due(call, got, want);
     }
 
-    /** The numbers, put in one behind the other. */
-    private static RootChunks row(int... numbers) {
-        RootChunks x = new RootChunks();
-        for (int i = 0; i < numbers.length; i++) {
-            x.putIn(i, numbers[i]);
-        }
-        return x;
-    }
-
-    /** 0, 1, 2 and so on. By hand: of 4 the chunks are 2 2 and the work 6, of 5 2 2 1 and 7, of 9 2 2 2 3 and 14. */
-    private static RootChunks rowOf(int length) {
-        int[] numbers = new int[length];
-        for (int i = 0; i < length; i++) {
-            numbers[i] = i;
-        }
-        return row(numbers);
-    }
-
-    private static void write(RootChunks x, String text) {
-        for (int i = 0; i < text.length(); i += 8) {
-            x.put(Check.packed(text.substring(i, Math.min(text.length(), i + 8))));
-        }
-    }
-
     private static void numbersDue(String when, RootChunks x, int... numbers) {
         due(when + ": length", x.count(LENGTH), numbers.length);
         for (int i = 0; i < numbers.length; i++) {
@@ -115,7 +91,7 @@ public final class PromisesTest {
     }
 
     private static void promise2PutIn() {
-        RootChunks x = rowOf(5);
+        RootChunks x = Rows.of(5);
         chunksDue("putIn: five", x, 221, 7);
         due("putIn inside a chunk", x.putIn(1, 50), 6);
         chunksDue("putIn inside a chunk", x, 2121, 10);
@@ -123,7 +99,7 @@ public final class PromisesTest {
         due("putIn the greatest", x.putIn(0, 999), 7);
         due("putIn the least", x.putIn(7, -999), 8);
         numbersDue("putIn at both ends", x, 999, 0, 50, 1, 2, 3, 4, -999);
-        RootChunks turned = rowOf(4);
+        RootChunks turned = Rows.of(4);
         turned.turn(0, 1);
         due("putIn where a turn waits", turned.putIn(1, 7), 5);
         chunksDue("putIn where a turn waits", turned, 212, 11);
@@ -151,7 +127,7 @@ public final class PromisesTest {
     }
 
     private static void promise3TakeOut() {
-        RootChunks x = rowOf(5);
+        RootChunks x = Rows.of(5);
         due("takeOut", x.takeOut(2), 100002);
         chunksDue("takeOut", x, 22, 9);
         numbersDue("takeOut", x, 0, 1, 3, 4);
@@ -159,7 +135,7 @@ public final class PromisesTest {
         due("takeOut behind the end", x.takeOut(4), NO_SUCH);
         chunksDue("takeOut: an error changes nothing", x, 22, 9);
         due("takeOut is a change", x.count(UNDOS), 6);
-        RootChunks one = row(5);
+        RootChunks one = Rows.with(5);
         one.add(0, 0, -7);
         due("takeOut what a sum waits for", one.takeOut(0), 99998);
         chunksDue("takeOut: its chunk is not carried out", one, 0, 1);
@@ -168,7 +144,7 @@ public final class PromisesTest {
     }
 
     private static void promise3LongChunksAreParted() {
-        RootChunks x = rowOf(9);
+        RootChunks x = Rows.of(9);
         chunksDue("nine", x, 2223, 14);
         int[] lengths = {1223, 223, 123, 23, 13, 12};
         int[] works = {15, 15, 16, 16, 17, 19};
@@ -176,7 +152,7 @@ public final class PromisesTest {
             due("takeOut the first", x.takeOut(0), 100000 + i);
             chunksDue("takeOut the first of " + (9 - i), x, lengths[i], works[i]);
         }
-        RootChunks turned = rowOf(9);
+        RootChunks turned = Rows.of(9);
         turned.turn(6, 8);
         for (int i = 0; i < 6; i++) {
             turned.takeOut(0);
@@ -187,7 +163,7 @@ public final class PromisesTest {
     }
 
     private static void promise3LongChunkBehindOthers() {
-        RootChunks x = rowOf(36);
+        RootChunks x = Rows.of(36);
         chunksDue("thirty-six", x, 45344556, x.count(WORK));
         x.turn(25, 29);
         for (int i = 0; i < 6; i++) {
@@ -205,7 +181,7 @@ public final class PromisesTest {
     }
 
     private static void promise4Set() {
-        RootChunks x = rowOf(4);
+        RootChunks x = Rows.of(4);
         x.turn(0, 1);
         x.add(0, 3, 5);
         chunksDue("set: ahead", x, 22, 6);
@@ -229,7 +205,7 @@ public final class PromisesTest {
     }
 
     private static void promise5Turn() {
-        RootChunks x = rowOf(9);
+        RootChunks x = Rows.of(9);
         due("turn", x.turn(1, 6), 4);
         chunksDue("turn", x, 2232, 23);
         numbersDue("turn", x, 0, 6, 5, 4, 3, 2, 1, 7, 8);
@@ -239,7 +215,7 @@ public final class PromisesTest {
         spanErrorsDue("turn", x.turn(0, 9), x.turn(9, 0), x.turn(0, -1), x.turn(-1, 0), x.turn(2, 1));
         due("turn: errors are no changes", x.count(UNDOS), 6);
         chunksDue("turn: errors change nothing", x, 2232, 23);
-        RootChunks twice = rowOf(4);
+        RootChunks twice = Rows.of(4);
         due("turn all", twice.turn(0, 3), 2);
         due("turn all: both wait", twice.count(TURNS), 2);
         numbersDue("turn all", twice, 3, 2, 1, 0);
@@ -247,14 +223,14 @@ public final class PromisesTest {
         due("turn all again: none waits", twice.count(TURNS), 0);
         chunksDue("turn all again", twice, 22, 6);
         numbersDue("turn all again", twice, 0, 1, 2, 3);
-        RootChunks one = row(7);
+        RootChunks one = Rows.with(7);
         due("turn one", one.turn(0, 0), 1);
         due("turn one: a turn waits", one.chunk(0, 2), 1);
         chunksDue("turn one", one, 1, 1);
     }
 
     private static void promise6Add() {
-        RootChunks x = rowOf(4);
+        RootChunks x = Rows.of(4);
         due("add", x.add(0, 3, 7), 2);
         chunksDue("add", x, 22, 6);
         due("add: both wait", x.count(SUMS), 2);
@@ -263,7 +239,7 @@ public final class PromisesTest {
         chunksDue("add to the midst", x, 22, 16);
         numbersDue("add to the midst", x, 7, 1, 2, 10);
         due("add to the midst: none waits", x.count(SUMS), 0);
-        RootChunks none = rowOf(4);
+        RootChunks none = Rows.of(4);
         due("add 0", none.add(1, 1, 0), 2);
         chunksDue("add 0 cuts, too", none, 22, 8);
         due("add 0 is a change", none.count(UNDOS), 5);
@@ -278,7 +254,7 @@ public final class PromisesTest {
     }
 
     private static void promise6Limits() {
-        RootChunks x = row(0, 1);
+        RootChunks x = Rows.with(0, 1);
         for (int i = 0; i < 100; i++) {
             due("add 999", x.add(0, 1, 999), 2);
         }
@@ -311,15 +287,15 @@ public final class PromisesTest {
     }
 
     private static void promise7Move() {
-        RootChunks x = rowOf(9);
+        RootChunks x = Rows.of(9);
         due("move back", x.move(0, 1, 3), 3);
         chunksDue("move back", x, 333, 17);
         numbersDue("move back", x, 2, 3, 4, 0, 1, 5, 6, 7, 8);
-        RootChunks ahead = rowOf(9);
+        RootChunks ahead = Rows.of(9);
         due("move ahead", ahead.move(7, 8, 1), 3);
         chunksDue("move ahead", ahead, 333, 22);
         numbersDue("move ahead", ahead, 0, 7, 8, 1, 2, 3, 4, 5, 6);
-        RootChunks still = rowOf(4);
+        RootChunks still = Rows.of(4);
         due("move to where it is", still.move(1, 1, 1), 2);
         chunksDue("move to where it is: it is cut", still, 22, 8);
         due("move to where it is: a change", still.count(UNDOS), 5);
@@ -332,7 +308,7 @@ public final class PromisesTest {
         spanErrorsDue("move", still.move(0, 4, 9), still.move(4, 0, -1), still.move(0, -1, 0), still.move(-1, 0, 0),
             still.move(2, 1, 0));
         numbersDue("move: errors change nothing", still, 2, 3, 0, 1);
-        RootChunks turned = rowOf(4);
+        RootChunks turned = Rows.of(4);
         turned.turn(0, 1);
         due("move a chunk in which a turn waits", turned.move(0, 1, 2), 2);
         due("move: the turn still waits", turned.chunk(1, 2), 1);
@@ -343,22 +319,22 @@ public final class PromisesTest {
 
     /** Which of two cuts in one chunk comes first is told by the work. */
     private static void promise7OrderOfCuts() {
-        RootChunks ahead = rowOf(9);
+        RootChunks ahead = Rows.of(9);
         ahead.move(7, 7, 0);
         numbersDue("move ahead out of a chunk", ahead, 7, 0, 1, 2, 3, 4, 5, 6, 8);
         chunksDue("move: cut ahead of the span, then behind it, then at the place", ahead, 3231, 20);
-        RootChunks behind = rowOf(9);
+        RootChunks behind = Rows.of(9);
         behind.move(5, 6, 6);
         numbersDue("move within a chunk", behind, 0, 1, 2, 3, 4, 7, 5, 6, 8);
         chunksDue("move: cut behind the span, then at the place behind it", behind, 2331, 21);
     }
 
     private static void promise8Rotate() {
-        RootChunks x = rowOf(5);
+        RootChunks x = Rows.of(5);
         due("rotate by 1", x.rotate(0, 4, 1), 3);
         chunksDue("rotate by 1", x, 122, 9);
         numbersDue("rotate by 1", x, 1, 2, 3, 4, 0);
-        RootChunks back = rowOf(5);
+        RootChunks back = Rows.of(5);
         due("rotate by -1", back.rotate(0, 4, -1), 3);
         chunksDue("rotate by -1", back, 122, 7);
         numbersDue("rotate by -1 is as by 4", back, 4, 0, 1, 2, 3);
@@ -366,10 +342,10 @@ public final class PromisesTest {
         due("rotate by -999", rotated(-999), 12340);
         due("rotate by 7", rotated(7), 23401);
         due("rotate by -5", rotated(-5), 1234);
-        RootChunks part = rowOf(5);
+        RootChunks part = Rows.of(5);
         part.rotate(1, 3, 1);
         numbersDue("rotate a part", part, 0, 2, 3, 1, 4);
-        RootChunks none = rowOf(4);
+        RootChunks none = Rows.of(4);
         due("rotate by 0", none.rotate(1, 2, 0), 2);
         due("rotate by its length", none.rotate(1, 2, 2), 2);
         due("rotate by less its length", none.rotate(1, 2, -2), 2);
@@ -386,7 +362,7 @@ public final class PromisesTest {
 
     /** The digits of five numbers, rotated. */
     private static int rotated(int by) {
-        RootChunks x = rowOf(5);
+        RootChunks x = Rows.of(5);
         x.rotate(0, 4, by);
         int digits = 0;
         for (int place = 0; place < 5; place++) {
@@ -396,7 +372,7 @@ public final class PromisesTest {
     }
 
     private static void promise9At() {
-        RootChunks x = row(5, -3, 999, -999);
+        RootChunks x = Rows.with(5, -3, 999, -999);
         numbersDue("at", x, 5, -3, 999, -999);
         x.turn(0, 1);
         x.add(0, 1, -4);
@@ -409,7 +385,7 @@ public final class PromisesTest {
     }
 
     private static void promise10Chunk() {
-        RootChunks x = rowOf(5);
+        RootChunks x = Rows.of(5);
         x.turn(2, 3);
         x.add(2, 3, -5);
         int[][] answers = {{2, 0, 0, 100000, 0}, {2, 2, 1, 99995, 3}, {1, 4, 0, 100000, 4}};
@@ -436,7 +412,7 @@ public final class PromisesTest {
             due("count: undos", x.count(UNDOS), Math.min(length, 6));
         }
         due("count: the longest is in the midst", x.count(LONGEST), 7);
-        RootChunks first = rowOf(4);
+        RootChunks first = Rows.of(4);
         first.turn(0, 3);
         first.takeOut(3);
         first.takeOut(2);
@@ -448,10 +424,10 @@ public final class PromisesTest {
         }
         chunksDue("nine put in at the front", one, 3222, 15);
         due("count: the longest is the first", one.count(LONGEST), 3);
-        RootChunks y = rowOf(9);
+        RootChunks y = Rows.of(9);
         y.turn(0, 3);
         y.add(4, 8, 2);
-        y.put(Check.packed("abc"));
+        y.put(Rows.packed("abc"));
         int[] counts = {9, 4, 3, 14, 3, 2, 2, 3, 6};
         for (int what = 0; what < counts.length; what++) {
             due("count " + what, y.count(what), counts[what]);
@@ -463,7 +439,7 @@ public final class PromisesTest {
     }
 
     private static void promise12Kth() {
-        RootChunks x = row(5, 3, 5, -2);
+        RootChunks x = Rows.with(5, 3, 5, -2);
         int[] sorted = {99998, 100003, 100005, 100005};
         for (int k = 0; k < 4; k++) {
             due("kth " + k, x.kth(0, 3, k), sorted[k]);
@@ -482,13 +458,13 @@ public final class PromisesTest {
         due("kth where something waits, the next", x.kth(0, 3, 2), 100013);
         due("kth of a part that waits", x.kth(0, 0, 0), 100013);
         due("kth: nothing is carried out", x.count(WORK), 6);
-        RootChunks near = row(3, 4, 5);
+        RootChunks near = Rows.with(3, 4, 5);
         due("kth of neighbours", near.kth(0, 2, 1), 100004);
         due("kth of neighbours, the greatest", near.kth(0, 2, 2), 100005);
     }
 
     private static void promise13Below() {
-        RootChunks x = row(5, 3, 5, -2);
+        RootChunks x = Rows.with(5, 3, 5, -2);
         due("below 5", x.below(0, 3, 5), 2);
         due("below 6", x.below(0, 3, 6), 4);
         due("below -2", x.below(0, 3, -2), 0);
@@ -506,7 +482,7 @@ public final class PromisesTest {
     }
 
     private static void promise14Sum() {
-        RootChunks x = row(5, 3, 5, -20);
+        RootChunks x = Rows.with(5, 3, 5, -20);
         due("sum", x.sum(0, 3), 9999993);
         due("sum of a part", x.sum(0, 2), 10000013);
         due("sum of one", x.sum(3, 3), 9999980);
@@ -515,7 +491,7 @@ public final class PromisesTest {
         x.add(0, 1, 100);
         due("sum where something waits", x.sum(1, 2), 10000110);
         due("sum: nothing is carried out", x.count(WORK), 6);
-        RootChunks y = rowOf(9);
+        RootChunks y = Rows.of(9);
         y.turn(6, 8);
         due("sum where a turn waits, first", y.sum(6, 6), 10000008);
         due("sum where a turn waits, second", y.sum(7, 7), 10000007);
@@ -524,7 +500,7 @@ public final class PromisesTest {
     }
 
     private static void promise15Unlike() {
-        RootChunks x = row(5, 3, 5, -2);
+        RootChunks x = Rows.with(5, 3, 5, -2);
         due("unlike", x.unlike(0, 3), 3);
         due("unlike of a part", x.unlike(0, 1), 2);
         due("unlike of a part that begins later", x.unlike(1, 3), 3);
@@ -538,7 +514,7 @@ public final class PromisesTest {
     }
 
     private static void promise16Find() {
-        RootChunks x = row(5, 3, 5, -2);
+        RootChunks x = Rows.with(5, 3, 5, -2);
         due("find", x.find(0, 5), 0);
         due("find from 1 on", x.find(1, 5), 2);
         due("find from where it is", x.find(2, 5), 2);
@@ -557,7 +533,7 @@ public final class PromisesTest {
     }
 
     private static void promise17CostOfTurn() {
-        RootChunks x = rowOf(9);
+        RootChunks x = Rows.of(9);
         due("costOfTurn", x.costOfTurn(1, 6), 9);
         due("costOfTurn of a chunk", x.costOfTurn(0, 1), 0);
         chunksDue("costOfTurn changes nothing", x, 2223, 14);
@@ -590,29 +566,29 @@ public final class PromisesTest {
         due("put with a bad one ahead", x.put(0x2041L), BAD_VALUE);
         due("put with a bad one as the first of eight", x.put(0x8041414141414141L), BAD_VALUE);
         due("put: errors change nothing", x.count(PAD), 3);
-        due("put eight", x.put(Check.packed("abcdefgh")), 11);
+        due("put eight", x.put(Rows.packed("abcdefgh")), 11);
         due("put is no change", x.count(UNDOS), 0);
         due("wipe", x.wipe(), 11);
         for (int i = 1; i <= 9; i++) {
-            x.put(Check.packed("abcdefgh"));
+            x.put(Rows.packed("abcdefgh"));
         }
-        due("put up to 76", x.put(Check.packed("abcd")), 76);
-        due("put up to 81", x.put(Check.packed("abcde")), TOO_MANY);
-        due("put up to 80", x.put(Check.packed("abcd")), 80);
+        due("put up to 76", x.put(Rows.packed("abcd")), 76);
+        due("put up to 81", x.put(Rows.packed("abcde")), TOO_MANY);
+        due("put up to 80", x.put(Rows.packed("abcd")), 80);
         due("put one more", x.put(65), TOO_MANY);
         due("put a bad one more", x.put(32), BAD_VALUE);
         due("put: still 80", x.count(PAD), 80);
         RootChunks order = new RootChunks();
-        order.put(Check.packed("pu"));
-        order.put(Check.packed("t0=17"));
+        order.put(Rows.packed("pu"));
+        order.put(Rows.packed("t0=17"));
         due("put: the last character is the lowest", order.carryOut(), 1);
         numbersDue("put: the last character is the lowest", order, 17);
     }
 
     private static void promise19Wipe() {
-        RootChunks x = rowOf(2);
+        RootChunks x = Rows.of(2);
         due("wipe nothing", x.wipe(), 0);
-        write(x, "put0=1;cut");
+        Rows.write(x, "put0=1;cut");
         due("wipe", x.wipe(), 10);
         due("wipe: the pad is empty", x.count(PAD), 0);
         due("wipe: no text", x.fault(), 0);
@@ -645,7 +621,7 @@ public final class PromisesTest {
 
     private static void faultDue(String text, int want) {
         RootChunks x = new RootChunks();
-        write(x, text);
+        Rows.write(x, text);
         due("fault of " + text, x.fault(), want);
         due("fault of " + text + " again", x.fault(), want);
         due("fault leaves " + text, x.count(PAD), text.length());
@@ -662,18 +638,18 @@ public final class PromisesTest {
     private static void promise21CarryOut() {
         RootChunks x = new RootChunks();
         due("carryOut nothing", x.carryOut(), BAD_TEXT);
-        write(x, "put0=5;x");
+        Rows.write(x, "put0=5;x");
         due("carryOut a fault", x.carryOut(), BAD_TEXT);
         due("carryOut a fault: the pad stays", x.count(PAD), 8);
         due("carryOut a fault: no change", x.count(UNDOS), 0);
         due("carryOut a fault: no number", x.count(LENGTH), 0);
         x.wipe();
-        write(x, "put0=5;put1=-6;cut5;put0=1");
+        Rows.write(x, "put0=5;put1=-6;cut5;put0=1");
         due("carryOut up to an error", x.carryOut(), 2);
         numbersDue("carryOut up to an error", x, 5, -6);
         due("carryOut: the pad is empty", x.count(PAD), 0);
         due("carryOut: one change", x.count(UNDOS), 1);
-        write(x, "cut2;cut0");
+        Rows.write(x, "cut2;cut0");
         due("carryOut none", x.carryOut(), 0);
         numbersDue("carryOut none", x, 5, -6);
         due("carryOut none: the pad is empty", x.count(PAD), 0);
@@ -687,31 +663,31 @@ public final class PromisesTest {
     }
 
     private static void promise21EachWord() {
-        RootChunks x = rowOf(9);
-        write(x, "turn1-6");
+        RootChunks x = Rows.of(9);
+        Rows.write(x, "turn1-6");
         due("carryOut a turn", x.carryOut(), 1);
         chunksDue("carryOut a turn", x, 2232, 23);
         numbersDue("carryOut a turn", x, 0, 6, 5, 4, 3, 2, 1, 7, 8);
-        RootChunks y = rowOf(5);
-        write(y, "set0=-10;cut1;add1-2=-7;move0-0>3;roll0-3=1;put2=999");
+        RootChunks y = Rows.of(5);
+        Rows.write(y, "set0=-10;cut1;add1-2=-7;move0-0>3;roll0-3=1;put2=999");
         due("carryOut each word", y.carryOut(), 6);
         numbersDue("carryOut each word", y, -4, 4, 999, -10, -5);
         RootChunks once = new RootChunks();
-        write(once, "put0=0;".repeat(11).substring(0, 76));
+        Rows.write(once, "put0=0;".repeat(11).substring(0, 76));
         due("carryOut eleven", once.carryOut(), 11);
         chunksDue("carryOut evens out behind each order", once, 23222, 18);
         due("carryOut eleven: one change", once.count(UNDOS), 1);
         String[] failing = {"put6=1", "set5=1", "cut5", "turn4-5", "turn4-3", "add0-5=1", "add1-0=1", "move0-1>4", "move5-5>0",
             "roll1-0=1", "roll5-0=1"};
         for (String order : failing) {
-            write(y, order + ";cut0");
+            Rows.write(y, order + ";cut0");
             due("carryOut " + order, y.carryOut(), 0);
             numbersDue("carryOut " + order, y, -4, 4, 999, -10, -5);
         }
     }
 
     private static void promise22Undo() {
-        RootChunks x = rowOf(8);
+        RootChunks x = Rows.of(8);
         for (int left = 5; left >= 0; left--) {
             due("undo", x.undo(), left);
             due("undo: length", x.count(LENGTH), left + 2);
@@ -723,7 +699,7 @@ public final class PromisesTest {
         due("undo can be used anew", x.count(UNDOS), 1);
         due("an error records nothing", x.putIn(9, 0), NO_SUCH);
         due("an error records nothing", x.count(UNDOS), 1);
-        RootChunks y = rowOf(9);
+        RootChunks y = Rows.of(9);
         y.turn(0, 1);
         y.add(0, 3, 4);
         y.turn(1, 6);
@@ -743,7 +719,7 @@ public final class PromisesTest {
         x.save(0);
         x.putIn(1, 2);
         x.save(0);
-        write(x, "abc");
+        Rows.write(x, "abc");
         x.undo();
         due("undo leaves the pad", x.count(PAD), 3);
         due("undo leaves the slots", x.restore(0), 2);
@@ -757,7 +733,7 @@ public final class PromisesTest {
     }
 
     private static void promise23Save() {
-        RootChunks x = rowOf(5);
+        RootChunks x = Rows.of(5);
         due("save 0", x.save(0), 5);
         due("save -1", x.save(-1), BAD_VALUE);
         due("save 2", x.save(2), BAD_VALUE);
@@ -785,7 +761,7 @@ public final class PromisesTest {
     }
 
     private static void promise24Restore() {
-        RootChunks x = rowOf(4);
+        RootChunks x = Rows.of(4);
         x.turn(0, 1);
         x.add(2, 3, 7);
         due("restore nothing", x.restore(0), NOT_POSSIBLE);
@@ -794,7 +770,7 @@ public final class PromisesTest {
         due("restore: errors are no changes", x.count(UNDOS), 6);
         x.save(1);
         x.turn(1, 2);
-        write(x, "abc");
+        Rows.write(x, "abc");
         due("restore", x.restore(1), 4);
         due("restore leaves the pad", x.count(PAD), 3);
         chunksDue("restore", x, 22, 6);
