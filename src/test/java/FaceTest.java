@@ -1,4 +1,6 @@
+import java.io.DataInputStream;
 import java.io.IOException;
+import java.io.InputStream;
 import java.lang.reflect.Constructor;
 import java.lang.reflect.Executable;
 import java.lang.reflect.Field;
@@ -23,11 +25,20 @@ public final class FaceTest {
     private static final String[] RULED_OUT = {"import", "package", "throw", "throws", "try", "catch", "synchronized",
         "assert", "lambda", "[a-z]+Exact", "System.out", "Object", "equals", "hashCode", "toString", "volatile", "transient"};
 
+    private static final Set<Class<?>> CONSTANT_TYPES = Set.of(int.class, long.class, boolean.class, char.class, String.class);
+    /** Of the language's rule 4, with what every class calls: the constructor of the class above it. */
+    private static final Set<String> LIBRARY = Set.of("java/lang/Object.<init>", "java/lang/Math.max", "java/lang/Math.min",
+        "java/lang/Math.abs", "java/lang/Math.floorDiv", "java/lang/Math.floorMod", "java/lang/System.arraycopy",
+        "java/lang/String.length", "java/lang/String.charAt", "java/lang/String.isEmpty", "java/util/Arrays.fill");
+    private static final int UTF8 = 1, LONG = 5, DOUBLE = 6, CLASS = 7, STRING = 8, METHOD = 10, INTERFACE_METHOD = 11,
+        METHOD_HANDLE = 15, METHOD_TYPE = 16, DYNAMIC = 17, INVOKE_DYNAMIC = 18;
+
     private static final Check CHECK = new Check();
 
     public static void main(String[] args) throws IOException {
         faceIsTheDocuments();
         noPrivateMethodBearsThePublicName();
+        onlyTheLibraryOfTheRulesIsCalled();
         textKeepsToTheRules(Files.readString(PROGRAM));
         CHECK.end();
     }
@@ -50,8 +61,6 @@ public final class FaceTest {
                 CHECK.holds(field.getName() + " is a constant int", field.getType() == int.class
                     && field.getModifiers() == (Modifier.PUBLIC | Modifier.STATIC | Modifier.FINAL));
             }
-            CHECK.holds(field.getName() + " is final if it is static",
-                !Modifier.isStatic(field.getModifiers()) || Modifier.isFinal(field.getModifiers()));
         }
         CHECK.holds("constants " + constants, constants.equals(new TreeSet<>(List.of(CONSTANTS))));
         Constructor<?>[] constructors = RootChunks.class.getDeclaredConstructors();
@@ -65,6 +74,7 @@ public final class FaceTest {
             CHECK.holds(inside.getName() + " is static", Modifier.isStatic(inside.getModifiers()));
         }
         classes.add(RootChunks.class);
+        CHECK.holds("some twelve classes at most", classes.size() <= 12);
         CHECK.holds("no local or anonymous class", RootChunks.class.getNestMembers().length == classes.size());
         for (Class<?> one : classes) {
             for (Method method : one.getDeclaredMethods()) {
@@ -79,9 +89,54 @@ public final class FaceTest {
             int fields = 0;
             for (Field field : one.getDeclaredFields()) {
                 fields += Modifier.isStatic(field.getModifiers()) ? 0 : 1;
+                CHECK.holds(one.getName() + "." + field.getName() + " is no other static state",
+                    !Modifier.isStatic(field.getModifiers())
+                        || Modifier.isFinal(field.getModifiers()) && CONSTANT_TYPES.contains(field.getType()));
             }
             CHECK.holds(one.getName() + " has some twenty fields at most", fields <= 20);
         }
+    }
+
+    private static void onlyTheLibraryOfTheRulesIsCalled() throws IOException {
+        for (Class<?> one : RootChunks.class.getNestMembers()) {
+            try (InputStream bytes = one.getResourceAsStream("/" + one.getName() + ".class")) {
+                for (String called : calledBy(new DataInputStream(bytes))) {
+                    CHECK.holds(one.getName() + " may call " + called,
+                        called.startsWith("RootChunks") || LIBRARY.contains(called));
+                }
+            }
+        }
+    }
+
+    /** The methods that a class file calls, as its constant pool tells them. */
+    private static Set<String> calledBy(DataInputStream file) throws IOException {
+        file.readLong();
+        int size = file.readUnsignedShort();
+        int[] tags = new int[size];
+        String[] texts = new String[size];
+        int[] firsts = new int[size];
+        int[] seconds = new int[size];
+        for (int i = 1; i < size; i++) {
+            tags[i] = file.readUnsignedByte();
+            switch (tags[i]) {
+                case UTF8: texts[i] = file.readUTF(); break;
+                case CLASS: case STRING: case METHOD_TYPE: firsts[i] = file.readUnsignedShort(); break;
+                case METHOD_HANDLE: file.readUnsignedByte(); file.readUnsignedShort(); break;
+                // These take the place of two.
+                case LONG: case DOUBLE: file.readLong(); i++; break;
+                default: firsts[i] = file.readUnsignedShort(); seconds[i] = file.readUnsignedShort(); break;
+            }
+        }
+        Set<String> called = new TreeSet<>();
+        for (int i = 1; i < size; i++) {
+            if (tags[i] == METHOD || tags[i] == INTERFACE_METHOD) {
+                called.add(texts[firsts[firsts[i]]] + "." + texts[firsts[seconds[i]]]);
+            }
+            if (tags[i] == METHOD_HANDLE || tags[i] == DYNAMIC || tags[i] == INVOKE_DYNAMIC) {
+                called.add("what is made when it is called");
+            }
+        }
+        return called;
     }
 
     private static void textKeepsToTheRules(String text) {
